@@ -155,7 +155,10 @@ public final class OpenFields {
             return NONE;
         }
         for (int i = 0; i < n; i++) {
-            passWeek();
+            growStrips();
+            grazeHerd();
+            eatFromBarns();
+            beginWeek();
         }
         return now;
     }
@@ -382,30 +385,10 @@ public final class OpenFields {
         return Math.max(0, now % YEAR - inTime);
     }
 
-    private void passWeek() {
+    private void growStrips() {
         int rain = rains[now % YEAR];
         for (int i = 0; i < stripCount; i++) {
             strips[i].grow(rain);
-        }
-        grazeHerd();
-        for (int i = 0; i < houseCount; i++) {
-            houses[i].eat();
-        }
-        now++;
-        for (int i = 0; i < KINDS; i++) {
-            laws[i].reach(now);
-        }
-        if (now % YEAR == 0) {
-            beginYear();
-        }
-    }
-
-    private void beginYear() {
-        for (int i = 0; i < stripCount; i++) {
-            if (strips[i].crop) {
-                lost++;
-            }
-            strips[i].beginYear();
         }
     }
 
@@ -414,17 +397,13 @@ public final class OpenFields {
         herdAt = 0;
         for (int i = 0; i < houseCount; i++) {
             for (int beast = 0; beast < houses[i].beasts; beast++) {
-                grazeOne(houses[i]);
+                Strip pasture = nextPasture();
+                if (pasture == null) {
+                    houses[i].hungry++;
+                } else {
+                    pasture.graze();
+                }
             }
-        }
-    }
-
-    private void grazeOne(House keeper) {
-        Strip pasture = nextPasture();
-        if (pasture == null) {
-            keeper.hungry++;
-        } else {
-            pasture.graze();
         }
     }
 
@@ -445,6 +424,31 @@ public final class OpenFields {
             herdAt = 0;
         }
         return null;
+    }
+
+    private void eatFromBarns() {
+        for (int i = 0; i < houseCount; i++) {
+            houses[i].eat();
+        }
+    }
+
+    private void beginWeek() {
+        now++;
+        for (int i = 0; i < KINDS; i++) {
+            laws[i].reach(now);
+        }
+        if (now % YEAR == 0) {
+            beginYear();
+        }
+    }
+
+    private void beginYear() {
+        for (int i = 0; i < stripCount; i++) {
+            if (strips[i].crop) {
+                lost++;
+            }
+            strips[i].beginYear();
+        }
     }
 
     private boolean isOpen(Strip strip) {

@@ -221,5 +221,6 @@ public final class ExchangeTest {
         x.better();
         x.apart(0);
         Check.is("two pieces that are not fair", x.fewest(0), 2);
+        Check.is("asked again", x.fewest(0), 2);
     }
 }

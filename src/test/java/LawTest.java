@@ -193,6 +193,7 @@ public final class LawTest {
         Check.gives(x, "!1<2", 0);
         Check.gives(x, "!0+1", 0);
         Check.gives(x, "(!0)+1", 2);
+        Check.gives(x, "1+(!0)", 2);
         Check.gives(x, "!0&0", 0);
         Check.gives(x, "!(0&0)", 1);
         Check.gives(x, "1|1&0", 1);
@@ -271,6 +272,8 @@ public final class LawTest {
         Check.fault(x, "0000", 3);
         Check.fault(x, "1+1234", 5);
         Check.fault(x, "w1", 1);
+        Check.fault(x, "12+w3", 4);
+        Check.fault(x, "12+(3)4", 6);
         Check.fault(x, "1w", 1);
         Check.fault(x, "wy", 1);
         Check.fault(x, "(1)2", 3);

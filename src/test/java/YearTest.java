@@ -13,6 +13,7 @@ public final class YearTest {
         weekGrowth();
         weekGrass();
         herdChoice();
+        herdEachWeek();
         herdHouses();
         herdAndLaw();
         eating();
@@ -248,6 +249,18 @@ public final class YearTest {
         Check.is("nine dung at most", x.land(0, 4), 9);
     }
 
+    private static void herdEachWeek() {
+        OpenFields x = new OpenFields();
+        x.house(9, 0);
+        x.strip(2, 5, 0);
+        x.strip(2, 5, 0);
+        x.beasts(0, 1);
+        x.week(3);
+        Check.is("first, second, first", x.land(0, 4) * 10 + x.land(1, 4), 21);
+        x.week(3);
+        Check.is("the first of those with nine, each week", x.land(0, 4) * 10 + x.land(1, 4), 51);
+    }
+
     private static void herdHouses() {
         OpenFields x = new OpenFields();
         x.house(9, 0);
@@ -327,9 +340,14 @@ public final class YearTest {
         Check.is("reaped: rest 0", x.land(1, 5), 0);
         Check.is("not sown: one more", x.land(2, 5), 2);
         Check.is("no grass by a lost crop", x.land(0, 3), 0);
+        x.week(10);
+        x.sow(0);
+        Check.is("a crop grows from 0 again", x.land(0, 6), 0);
+        x.week(10);
+        Check.is("lost again", x.count(5), 2);
         x.week(20);
-        Check.is("one more a year later", x.land(0, 5), 2);
-        Check.is("reaped, a year later", x.land(1, 5), 1);
+        Check.is("one more, of two years", x.land(0, 5), 2);
+        Check.is("reaped, two years later", x.land(1, 5), 2);
     }
 
     private static void land() {

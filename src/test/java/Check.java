@@ -1,7 +1,16 @@
+import java.io.IOException;
+import java.io.UncheckedIOException;
+import java.nio.file.Files;
+import java.nio.file.Path;
+
 /** Counts answers that are not as due; the tests of this project end with {@link #end}. */
 final class Check {
+    private static final Path DOCUMENT = Path.of("../shared/DOC.md");
+
     private static int answers = 0;
     private static int wrong = 0;
+    private static String sentence = "";
+    private static String document = null;
 
     private Check() {
     }
@@ -10,12 +19,38 @@ final class Check {
         answers++;
         if (got != want) {
             wrong++;
-            System.out.println(what + " answered " + got + ", due is " + want);
+            System.out.println(sentence + what + " answered " + got + ", due is " + want);
         }
     }
 
     static void that(String what, boolean holds) {
         is(what, holds ? 1 : 0, 1);
+    }
+
+    /** Names the sentence of the document that the answers from here on are held against. */
+    static void sentence(String words) {
+        sentence = "";
+        that("the document says: " + words, document().isEmpty() || document().contains(words));
+        sentence = "[" + words + "] ";
+    }
+
+    private static String document() {
+        if (document == null) {
+            document = Files.exists(DOCUMENT) ? plain(read(DOCUMENT)) : "";
+        }
+        return document;
+    }
+
+    private static String read(Path path) {
+        try {
+            return Files.readString(path);
+        } catch (IOException e) {
+            throw new UncheckedIOException(e);
+        }
+    }
+
+    private static String plain(String text) {
+        return text.replace("&lt;", "<").replace("&amp;", "&").replaceAll("\\s+", " ");
     }
 
     /** Feeds a text of any length to the tape, four bytes a call. */

@@ -346,6 +346,7 @@ public final class ExchangeEdgeTest {
         Check.is("three houses are three pieces", x.fewest(0), 3);
         OpenFields y = Village.ofField(0, 2, "0100", "5555");
         Check.is("two houses are two", y.fewest(0), 2);
+        Check.is("one piece fewer than now", Village.ofField(0, 2, "0110", "5555").fewest(0), 2);
         OpenFields z = Village.ofField(0, 3, "01010", "55555");
         z.strip(1, 5, 2);
         Check.is("a house without strips in it is none of its houses", z.fewest(0), 2);
@@ -379,7 +380,7 @@ public final class ExchangeEdgeTest {
         OpenFields x = Village.ofField(0, 2, "0101", "5656");
         x.swap(1, 2);
         x.apart(0);
-        Check.is("0011, as it was made worth", x.hold(0, 6) - x.hold(0, 7), 1 * 3);
+        Check.is("0011, as it was made worth", x.hold(0, 6) - x.hold(0, 7), 3);
         Check.is("3 off, APART 0", x.fewest(0), 2);
         OpenFields y = Village.ofField(0, 2, "010", "595");
         y.apart(12);
@@ -387,6 +388,7 @@ public final class ExchangeEdgeTest {
         y.apart(0);
         Check.is("001 is 12 off", y.hold(0, 6) - y.hold(0, 7), 12);
         Check.is("it counts, fewer than the fair 010", y.fewest(0), 2);
+        Check.is("asked again", y.fewest(0), 2);
     }
 
     private static void fewestChangesNothing() {

@@ -35,6 +35,7 @@ public final class LawEdgeTest {
         andOrGive1Or0();
         bothSides();
         rangesOfNames();
+        nameOfStill();
         namesOfStint();
         houseOfOpen();
         leastFault();
@@ -260,7 +261,9 @@ public final class LawEdgeTest {
         Check.gives(x, "!7", 0);
         Check.gives(x, "!!7", 1);
         Check.gives(x, "!".repeat(59) + "7", 0);
+        Check.gives(x, "!1<2", 0);
         Check.gives(x, "!2<1", 1);
+        Check.gives(x, "!0>0", 1);
         Check.gives(x, "!0+7", 0);
         Check.gives(x, "0|!0", 1);
         Check.gives(x, "1&!0", 1);
@@ -515,6 +518,22 @@ public final class LawEdgeTest {
         Village.until(x, 40);
         Check.enact(x, 0, "s*10+y");
         Check.is("STILL in year 2", x.law(0, 0, 0), 12);
+    }
+
+    private static void nameOfStill() {
+        Check.sentence("s whether that is STILL (1, 0)");
+        OpenFields x = Village.ofThreeStrips();
+        Check.enact(x, 2, "s");
+        for (int year = 0; year < 4; year++) {
+            Village.until(x, 20 * year);
+            for (int field = 0; field < 3; field++) {
+                int due = (field + year) % 3 == 2 ? 1 : 0;
+                Check.is("OPEN, year " + year + ", field " + field, x.law(0, 0, field), due);
+                Check.is("FINE, year " + year + ", field " + field, x.law(2, 0, field), due);
+            }
+            Village.until(x, 20 * year + 19);
+            Check.is("to the last week of year " + year, x.law(2, 0, (5 - year) % 3), 1);
+        }
     }
 
     private static void namesOfStint() {

@@ -20,6 +20,7 @@ public final class RefusalTest {
         x -> { },
         x -> x.week(1),
         x -> x.week(8),
+        x -> x.week(20),
         RefusalTest::reapAll,
         RefusalTest::sowNextYear,
         RefusalTest::enactTheTape,
@@ -243,7 +244,7 @@ public final class RefusalTest {
         for (int i = 7; i < 60; i++) {
             x.strip(i % 3, 5, i % 2);
         }
-        x.swap(7, 1);
+        x.swap(7, 2);
     }
 
     private static void rain() {

@@ -25,6 +25,8 @@ public final class VillageEdgeTest {
         rainRange();
         rainOfEachWeek();
         newObject();
+        memoryOfItsOwn();
+        callsUpTo512();
         beastsRange();
         beastsAboveStint();
         beastsNotAboveWhatTheyWere();
@@ -352,6 +354,52 @@ public final class VillageEdgeTest {
         OpenFields other = new OpenFields();
         Check.is("another object: houses", other.count(0), 0);
         Check.is("another object: week", other.count(2), 0);
+    }
+
+    private static void memoryOfItsOwn() {
+        Check.sentence("All memory is the class's own.");
+        OpenFields x = Village.ofThreeStrips();
+        OpenFields other = Village.ofThreeStrips();
+        Check.enact(x, 0, "1");
+        x.feed(2, -1);
+        x.rain(0, 9);
+        x.apart(60);
+        x.house(5, 0);
+        x.beasts(1, 1);
+        Check.enact(x, 0, "0");
+        x.feed(2, -1);
+        x.stray(1, 0);
+        x.sow(0);
+        x.week(1);
+        Check.is("x: a trespass", x.count(4), 1);
+        Check.is("other: text", other.text(0, 0), 's');
+        Check.is("other: tape", other.count(3), 0);
+        Check.is("other: trespasses", other.count(4), 0);
+        Check.is("other: book", other.book(0, 0), NONE);
+        Check.is("other: apart", other.apart(3), 3);
+        Check.is("other: rain", other.rain(0, 5), 5);
+        Check.is("other: crop", other.land(0, 6), -1);
+        Check.is("other: week", other.count(2), 0);
+        Check.is("x: tape", x.count(3), 2);
+    }
+
+    private static void callsUpTo512() {
+        Check.sentence("An object is used for at most 512 calls after it has been made");
+        OpenFields x = Village.ofThreeStrips();
+        x.house(0, 0);
+        x.beasts(1, 9);
+        for (int i = 6; i < 510; i++) {
+            Check.is("stray", x.stray(1, 0), 0);
+        }
+        Check.is("call 511", x.count(4), 504);
+        Check.is("call 512", x.count(0), 2);
+        OpenFields y = Village.ofThreeStrips();
+        for (int i = 4; i < 510; i += 2) {
+            y.feed(4, '1' | '+' << 8 | '1' << 16 | '0' + i % 10 << 24);
+            Check.is("make", y.make(0, 0), 0);
+        }
+        Check.is("call 511", y.text(0, 3), '8');
+        Check.is("call 512", y.law(0, 0, 0), 19);
     }
 
     private static void beastsRange() {

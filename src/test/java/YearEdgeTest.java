@@ -43,6 +43,7 @@ public final class YearEdgeTest {
         weeksAtOnce();
         weeksBeyond2000();
         landUnknown();
+        landWithoutCrop();
         landOpen();
         landWouldBear();
         holdUnknown();
@@ -645,6 +646,25 @@ public final class YearEdgeTest {
         }
         Check.is("the last strip, the least what", x.land(2, 0), 2);
         Check.is("the last strip, the greatest what", x.land(2, 9), -1);
+    }
+
+    private static void landWithoutCrop() {
+        Check.sentence("6 GROWTH (-1: no CROP), 7 LATE (-1)");
+        OpenFields x = Village.ofThreeStrips();
+        Check.is("no GROWTH", x.land(0, 6), -1);
+        Check.is("no LATE", x.land(0, 7), -1);
+        x.week(3);
+        x.sow(0);
+        Check.is("GROWTH of 0", x.land(0, 6), 0);
+        Check.is("LATE", x.land(0, 7), 1);
+        x.week(8);
+        x.reap(0);
+        Check.is("reaped: no GROWTH", x.land(0, 6), -1);
+        Check.is("reaped: no LATE", x.land(0, 7), -1);
+        x.sow(1);
+        Village.until(x, 20);
+        Check.is("lost: no GROWTH", x.land(1, 6), -1);
+        Check.is("lost: no LATE", x.land(1, 7), -1);
     }
 
     private static void landOpen() {
